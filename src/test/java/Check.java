@@ -24,4 +24,17 @@ final class Check {
         for (int i = 0; i < text.length(); i++) x.feed(text.charAt(i));
         return x.law();
     }
+
+    /** An office told in words: D a desk's cell, W a worker's vm / needs, M the mask; any other word is the law. */
+    static FortyDesks office(String told) {
+        FortyDesks x = new FortyDesks();
+        for (String word : told.split(" ")) {
+            String[] numbers = word.substring(1).split("/");
+            if (word.startsWith("D")) x.desk(Integer.parseInt(numbers[0]));
+            else if (word.startsWith("W")) x.worker(Integer.parseInt(numbers[0]), Integer.parseInt(numbers[1]), 20050);
+            else if (word.startsWith("M")) x.set(0, Integer.parseInt(numbers[0]));
+            else law(x, word);
+        }
+        return x;
+    }
 }

@@ -209,6 +209,12 @@ public final class SeatsTest {
         due("25: one flees, one follows", z.mornings(-1), NOT);
         due("25: one flees, one follows", z.mornings(0), NOT);
         due("25: BAD goes ahead of NOT", z.mornings(2), VOID);
+        FortyDesks last = Check.office("D102 D106 D607 D400 D700 D505 D104 D507 D203 D503 W174/290 W6/813 W96/224 W0/560"
+            + " W85/91 W80/30 W37/465 W305/478 W32/690 M18 (v*94+d*17)%58");
+        due("25: the last morning", last.mornings(-1), 50);
+        FortyDesks late = Check.office("D402 D403 D100 D6 D505 D302 D208 D507 W0/807 W250/253 W0/653 W567/497 W155/183"
+            + " W87/28 W42/715 W249/723 W0/250 M2 (v*9+d*24)%65");
+        due("25: a morning too late", late.mornings(-1), NOT);
     }
 
     private static void heat() {
@@ -308,7 +314,10 @@ public final class SeatsTest {
         for (int left = 39; left >= 0; left--) due("28: undo", x.undo(), left);
         due("28: no more", x.undo(), STATE);
         due("28: the first three stay", x.of(0, 0), 3);
-        for (int left = 39; left >= 0; left--) due("29: redo", x.redo(), left);
+        for (int left = 39; left >= 0; left--) {
+            due("29: redo", x.redo(), left);
+            due("29: one more", x.of(0, 0), 43 - left);
+        }
         due("29: all again", x.of(0, 0), 43);
         x.undo();
         due("28: one more behind 39", x.mend(0, 1, 9), 0);

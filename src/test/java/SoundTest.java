@@ -203,6 +203,10 @@ public final class SoundTest {
         due("19: up and down", y.rest(0, -1), NOT);
         due("19: up and down", y.rest(0, 0), NOT);
         due("19: BAD goes ahead of NOT", y.rest(0, 2), BAD);
+        FortyDesks last = Check.office("D304 D6 D406 D903 W126/277 W159/112 W159/776 W378/485 M7 (v*v+d*26)%83");
+        due("19: the last round", last.rest(1, -1), 100);
+        FortyDesks late = Check.office("D404 D502 D503 D501 W72/113 W448/52 W30/486 W63/749 M16 (v*96+d*21)%69");
+        due("19: a round too late", late.rest(0, -1), NOT);
         FortyDesks z = two(95);
         Check.law(z, "99");
         due("19: 99 at most", z.rest(0, 0), 99);
@@ -231,10 +235,11 @@ public final class SoundTest {
         z.set(0, 0);
         Check.law(z, "v=0?99");
         due("20: a hushed one may still be heard", z.hush(), 2);
-        // they never rest: behind 100 rounds, an even number, those of VOICE 50 are at 50 again, that of 58 is at 58
+        // hushing 2 leaves 50 and 50, which go to 61 and back for ever: at 50 behind 100 rounds, at 61 behind an odd
+        // number; hushing another one leaves 50 and 60 + 11, at rest
         FortyDesks never = new FortyDesks();
         for (int d = 0; d < 3; d++) never.desk(d);
-        for (int v : new int[] {50, 50, 58}) never.worker(10 * v, 0, 20000);
+        for (int v : new int[] {50, 50, 60}) never.worker(10 * v, 0, 20000);
         Check.law(never, "99*(v<60)*(v>0)");
         due("20: no rest", never.rest(0, -1), NOT);
         due("20: behind 100 rounds", never.hush(), 2);
