@@ -1128,8 +1128,10 @@ public final class FortyDesks {
 
         /** Makes a change that is allowed: what it was before. */
         int make(int whose, int which, int v) {
-            if (done >= MOST_KEPT) dropOldest();
             int was = which == VOICE ? staff.voice[whose] : which == MIND ? staff.mind[whose] : floor.height[whose];
+            // What stays as it was is no change: nothing to undo, and what may be done again still may.
+            if (v == was) return was;
+            if (done >= MOST_KEPT) dropOldest();
             number[done] = whose;
             what[done] = which;
             before[done] = was;

@@ -132,6 +132,7 @@ final class Model {
         if (number >= (what == 2 ? screens.size() : workers.size())) return BAD;
         if (v < (what == 2 ? 1 : 0) || v > (what == 0 ? 99 : 9)) return BAD;
         int was = change(number, what, v);
+        if (was == v) return was;
         undone.clear();
         done.add(new int[] {number, what, was, v});
         if (done.size() > 40) done.remove(0);

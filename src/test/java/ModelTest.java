@@ -121,9 +121,11 @@ public final class ModelTest {
                 break;
             case 5: callRoom(); break;
             case 6:
-                int part = in(0, 2), to = part == 0 ? in(0, 99) : in(1, 9);
+                int part = in(0, 2);
                 for (int times = random.nextInt(20) == 0 ? 45 : 1; times > 0; times--) {
                     a = one(0, part == 2 ? 1 : 2);
+                    int to = part == 0 ? in(0, 99) : in(1, 9);
+                    if (random.nextInt(6) == 0) to = m.of(a, part == 2 ? 21 : part);
                     due("mend", x.mend(a, part, to), m.mend(a, part, to), a, part, to);
                 }
                 break;

@@ -215,8 +215,10 @@ public final class RoomTest {
         due("9: HEIGHT", x.mend(0, 2, 9), 4);
         due("9: HEIGHT", x.of(0, 21), 9);
         due("9: the other one is as it was", x.of(0, 0), 50);
-        due("9: the same once more is a change, too", x.mend(0, 2, 9), 9);
-        due("9: four changes", x.count(4), 4);
+        due("9: VOICE as it was", x.mend(1, 0, 99), 99);
+        due("9: MIND as it was", x.mend(1, 1, 0), 0);
+        due("9: HEIGHT as it was", x.mend(0, 2, 9), 9);
+        due("9: three changes, as those that leave all as it was are none", x.count(4), 3);
     }
 
     private static void of() {

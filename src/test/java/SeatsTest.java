@@ -14,6 +14,7 @@ public final class SeatsTest {
         heat();
         ill();
         undoRedo();
+        undoOfNoChange();
         undoForty();
         check.end("SeatsTest");
     }
@@ -304,6 +305,29 @@ public final class SeatsTest {
         due("28: that", x.of(0, 0), 90);
         due("29: that again", x.redo(), 0);
         due("29: that again", x.of(0, 0), 10);
+    }
+
+    private static void undoOfNoChange() {
+        FortyDesks x = new FortyDesks();
+        x.worker(0, 0, 15000);
+        x.screen(0, 4);
+        int[][] asItIs = {{0, 0, 0}, {0, 1, 0}, {0, 2, 4}};
+        for (int[] a : asItIs) {
+            due("28: mend to what it is", x.mend(a[0], a[1], a[2]), a[2]);
+            due("28: no change, so none to undo", x.undo(), STATE);
+        }
+        for (int v = 1; v <= 40; v++) x.mend(0, 0, v);
+        due("28: forty are kept, and as it was drops none", x.mend(0, 0, 40), 40);
+        for (int left = 39; left >= 1; left--) due("28: undo", x.undo(), left);
+        due("29: mend to what it is now", x.mend(0, 0, 1), 1);
+        due("29: no other change came behind", x.redo(), 38);
+        due("29: done again", x.of(0, 0), 2);
+        x.undo();
+        due("28: the first one, too", x.undo(), 0);
+        due("28: as at first", x.of(0, 0), 0);
+        due("28: no more", x.undo(), STATE);
+        x.mend(0, 1, 9);
+        due("29: another change came behind", x.redo(), STATE);
     }
 
     private static void undoForty() {
