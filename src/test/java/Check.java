@@ -25,12 +25,17 @@ final class Check {
         return x.law();
     }
 
-    /** An office told in words: D a desk's cell, W a worker's vm / needs, M the mask; any other word is the law. */
+    /**
+     * An office told in words: R the room's wd, D a desk's cell, S a screen's cell / height, W a worker's vm / needs,
+     * M the mask; any other word is the law.
+     */
     static FortyDesks office(String told) {
         FortyDesks x = new FortyDesks();
         for (String word : told.split(" ")) {
             String[] numbers = word.substring(1).split("/");
             if (word.startsWith("D")) x.desk(Integer.parseInt(numbers[0]));
+            else if (word.startsWith("R")) x.room(Integer.parseInt(numbers[0]));
+            else if (word.startsWith("S")) x.screen(Integer.parseInt(numbers[0]), Integer.parseInt(numbers[1]));
             else if (word.startsWith("W")) x.worker(Integer.parseInt(numbers[0]), Integer.parseInt(numbers[1]), 20050);
             else if (word.startsWith("M")) x.set(0, Integer.parseInt(numbers[0]));
             else law(x, word);
