@@ -10,6 +10,7 @@ public final class EdgesOfLawTest {
         opened();
         tooEarly();
         lengths();
+        longestInTurn();
         levels();
         wraps();
         byZero();
@@ -161,6 +162,17 @@ public final class EdgesOfLawTest {
         due("12: and the law is as it was", x.level(1), 46);
     }
 
+    /** 120 bytes of a law, again and again on one object. */
+    private static void longestInTurn() {
+        FortyDesks x = listening();
+        due("12: a short one", Check.law(x, "7"), 1);
+        due("14: by it", x.level(1), 7);
+        for (int last = 1; last <= 3; last++) {
+            due("12: 120 bytes", Check.law(x, "!v" + "+1".repeat(58) + "+" + last), 1);
+            due("14: by them", x.level(1), 58 + last);
+        }
+    }
+
     /** Two at desks side by side, VOICE 50 each: the level by a law is that of 1's words at 0's. */
     private static FortyDesks listening() {
         FortyDesks x = new FortyDesks();
@@ -280,6 +292,8 @@ public final class EdgesOfLawTest {
         level("0?1;".repeat(29) + "v", 50);
         level("0?1;".repeat(29) + "1?33", 33);
         level("0?1;".repeat(29) + "0?33", 0);
+        level("0?1;".repeat(29) + "0?!1", 0);
+        level("0?1;".repeat(29) + "1?!0", 1);
         level("0;".repeat(59) + "33", 0);
         level("33" + ";0".repeat(59), 33);
     }

@@ -14,6 +14,7 @@ public final class EdgesOfSoundTest {
         aboveTheMask();
         harmAndGain();
         needsOfNobody();
+        atNone();
         quietAtTheEdges();
         quietOfEach();
         higherAtNine();
@@ -23,6 +24,7 @@ public final class EdgesOfSoundTest {
         roundsOfRest();
         hushOfTen();
         neverStale();
+        manyChangesBetween();
         check.end("EdgesOfSoundTest");
     }
 
@@ -213,6 +215,37 @@ public final class EdgesOfSoundTest {
         due("16: alone", alone.net(), 0);
         due("21: alone", alone.seats(-1), 0);
         due("21: alone", alone.seats(0), 0);
+    }
+
+    /** "Both sit": one at none is not heard and hears nobody, by the least MASK and the loudest law, too. */
+    private static void atNone() {
+        for (int none = 0; none < 3; none++) {
+            FortyDesks x = new FortyDesks();
+            for (int d = 0; d < 3; d++) x.desk(d);
+            for (int w = 0; w < 3; w++) x.worker(505, w == 2 ? 1 : 0, 20100);
+            x.set(0, 0);
+            Check.law(x, "99");
+            x.sit(none, -1);
+            for (int w = 0; w < 3; w++) {
+                int heard = w == none ? 0 : 7 - (1 << w) - (1 << none);
+                boolean needed = w == 2 && none == 1;
+                due("15: " + none + " at none, " + w + " hears", x.hears(w, 0), heard);
+                due("15: " + none + " at none, HARM of " + w, x.hears(w, 1), w == none || needed ? 0 : 5 * 99);
+                due("15: " + none + " at none, GAIN of " + w, x.hears(w, 2), needed ? 3 * 99 : 0);
+                due("19: " + none + " at none, voice of " + w, x.rest(0, w), w == none ? 50 : 50 + 99 / 8);
+                due("23: " + none + " at none, " + w, x.broken(1, 1, w), w == none || needed ? 0 : 1);
+            }
+            due("16: " + none + " at none", x.net(), none == 1 ? 3 * 99 - 5 * 99 : -2 * 5 * 99);
+        }
+        FortyDesks all = two(5, 0, "99");
+        all.set(0, 0);
+        all.sit(0, -1);
+        all.sit(1, -1);
+        due("15: both at none", all.hears(0, 0), 0);
+        due("16: both at none", all.net(), 0);
+        due("17: both at none", all.quiet(0), 0);
+        due("22: both at none", all.swaps(-1), 0);
+        due("23: both at none", all.broken(1, 100, -1), 0);
     }
 
     /** "The least MASK (0 .. 60, in thought)"; "farther than a told FAR". */
@@ -407,6 +440,16 @@ public final class EdgesOfSoundTest {
                     check.dueTrue("14: stale behind " + a + ", " + b + ", " + c, hear(asked).equals(hear(fresh)));
                 }
             }
+        }
+    }
+
+    /** As many changes as there may be between two looks. */
+    private static void manyChangesBetween() {
+        for (int changes = 1; changes <= 480; changes++) {
+            FortyDesks x = Told.office("desk(0) desk(1) worker(500,0,20000) worker(500,0,20000)");
+            due("14: at first", x.level(1), 46);
+            for (int i = 1; i <= changes; i++) x.set(1, 1 + i % 9);
+            due("14: behind " + changes + " changes", x.level(1), 47 + changes % 9);
         }
     }
 
