@@ -126,6 +126,8 @@ public final class FormTest {
         }
         check.dueTrue("an object is at most 80 objects: " + seen.size(), seen.size() <= 80);
         check.dueTrue("and at most 7000 fields and elements: " + elements, elements <= 7000);
+        String told = seen.size() + " objects and arrays with " + elements + " fields and elements";
+        check.dueTrue("README.md tells: " + told, Files.readString(Path.of("README.md")).replace('\n', ' ').contains(told));
     }
 
     private static void callsMakeNothing() {
